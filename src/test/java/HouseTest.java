@@ -22,6 +22,7 @@ public final class HouseTest {
         repairLooksAtItsArguments();
         passTellsTheTime();
         passLooksAtItsArguments();
+        passEndsAtAMillion();
         due.end();
     }
 
@@ -372,6 +373,10 @@ public final class HouseTest {
         due.fails("pass(2001)", Due.ARGUMENT, () -> x.pass(2001));
         due.fails("pass(MAX)", Due.ARGUMENT, () -> x.pass(Integer.MAX_VALUE));
         due.is("time() after what threw", 0, () -> x.time());
+    }
+
+    private static void passEndsAtAMillion() {
+        BellStreet x = new BellStreet();
         for (int calls = 0; calls < 499; calls++) {
             x.pass(2000);
         }
