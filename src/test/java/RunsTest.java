@@ -46,17 +46,9 @@ public final class RunsTest {
         return wild[any(wild.length)];
     }
 
-    private static String told(LongSupplier call) {
-        try {
-            return String.valueOf(call.getAsLong());
-        } catch (RuntimeException thrown) {
-            return "throws." + thrown.getClass().getSimpleName();
-        }
-    }
-
     private void same(String name, String want, LongSupplier got) {
         calls++;
-        due.compare("run " + run + ", call " + calls + ": " + name, want, told(got));
+        due.compare("run " + run + ", call " + calls + ": " + name, want, Due.told(got));
     }
 
     private void play() {
